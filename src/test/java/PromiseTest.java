@@ -903,9 +903,36 @@ final class PromiseTest {
         check.same("undo of pass(0)", x.undo(), 0);
         check.noState("a call that throws", () -> x.go());
         check.same("is not kept", x.undo(), -1);
+        undoOfEvents();
         Check.errorOf(x, "foo", true);
         x.undo();
         check.same("undo leaves the error", x.errorCode(), 1);
+    }
+
+    private static void undoOfEvents() {
+        WaveUpgrade x = cluster();
+        for (int k = 1; k <= 33; k++) {
+            x.pass(1);
+            x.hold(k % 3, (k - 1) / 3 % 2 == 0);
+        }
+        event(x, 0, 33, 8, 0, 1);
+        event(x, 29, 4, 8, 1, 0);
+        check.same("undo of hold()", x.undo(), 5);
+        check.same("events() as they were", x.events(), 30);
+        event(x, 0, 32, 8, 2, 1);
+        event(x, 29, 3, 8, 0, 1);
+        x.undo();
+        x.undo();
+        event(x, 0, 31, 8, 1, 1);
+        event(x, 29, 2, 8, 2, 1);
+        x.commit(2);
+        event(x, 0, 32, 7, -1, 2);
+        event(x, 1, 31, 8, 1, 1);
+        x.save();
+        x.hold(4, true);
+        x.restore();
+        event(x, 0, 32, 7, -1, 2);
+        event(x, 29, 3, 8, 0, 1);
     }
 
     /** Promises 50 and 51. */

@@ -10,6 +10,7 @@ final class ScriptTest {
         ends();
         repeats();
         kept();
+        readingAgain();
         check.end();
     }
 
@@ -166,5 +167,18 @@ final class ScriptTest {
         check.same("plan as it was", x.plan(0), 0);
         check.same("events as they were", x.events(), 0);
         check.same("no more to undo", x.undo(), -1);
+    }
+
+    /** Nothing of an earlier script, good or bad, is left when a next one is read. */
+    private static void readingAgain() {
+        WaveUpgrade x = Check.cluster(CLUSTER);
+        check.same("a script", Check.script(x, "repeat 3 (pass 1;repeat 2 (pass 0;););pass 4;"), 10);
+        check.same("a shorter one", Check.script(x, "pass 2;"), 1);
+        check.sameText("one that ends too early", Check.errorOf(x, "pass 1;repeat 2 (repeat 2 (pass 1;", true), "1@34");
+        check.same("one behind it", Check.script(x, "pass 2;repeat 2 (repeat 2 (pass 1;););"), 5);
+        check.same("one that ends within a repeat", Check.script(x, "repeat 2 (repeat 2 (pass 1;go;););"), 1);
+        check.same("one behind that", Check.script(x, "pass 1;repeat 2 (pass 1;);"), 3);
+        check.same("an empty one", Check.script(x, ""), 0);
+        check.same("the clock", x.setting(11), 19);
     }
 }

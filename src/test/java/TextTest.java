@@ -14,6 +14,7 @@ final class TextTest {
         versions();
         counts();
         replacing();
+        readingAgain();
         check.end();
     }
 
@@ -33,6 +34,7 @@ final class TextTest {
         error("", "soak 007;limit 000;skew 0;takes 01;down 12;format 9;", 0, 0);
         error("", "version version 1 9;place held;member held held version held;wave held;", 0, 0);
         error("", "version a 9 9;version abcdefgh 1 1;", 0, 0);
+        error("", "place z;wave z;place azaz;", 0, 0);
         error("", "place p;wave p;place q;wave q;", 0, 0);
         error(BASE, "member a p a;member b q b;link b a;wave q p;soak 0;", 0, 0);
         error(BASE, "member a p a;takes 9;down 2;limit 3;soak 1;", 0, 0);
@@ -235,5 +237,31 @@ final class TextTest {
         Check.put(x, "");
         check.same("readText of nothing", x.readText(), 0);
         check.same("versions of nothing", x.setting(0), 0);
+    }
+
+    /** Nothing of an earlier text, good or bad, is left when a next one is read. */
+    private static void readingAgain() {
+        String text = "format 1;skew 2;down 2;takes 3;soak 4;limit 5;" + BASE
+                + "member m p a held;member n q b;member o p a;link m n;wave p;wave q;";
+        WaveUpgrade x = Check.cluster(text);
+        check.sameText("the same text again", Check.errorOf(x, text, false), "0@-1");
+        check.same("links", x.setting(4), 1);
+        check.same("waves", x.setting(3), 2);
+        check.same("inWave(0)", x.inWave(0), 5);
+        check.sameText("it with an error behind", Check.errorOf(x, text + "format 1;", false), "4@" + text.length());
+        String other = VERSIONS + "place u;member k u a;place v;member l v b;wave v;member m v b;";
+        check.sameText("another text", Check.errorOf(x, other, false), "0@-1");
+        int[] settings = {3, 2, 3, 1, 0, 1, 1, 1, 5, 10, 50, 0};
+        for (int what = 0; what < settings.length; what++) {
+            check.same("setting(" + what + ") then", x.setting(what), settings[what]);
+        }
+        int[] partners = {0, 4, 2};
+        for (int k = 0; k < 3; k++) {
+            check.same("partners(" + k + ") then", x.partners(k), partners[k]);
+            check.same("held back then: " + k, x.member(k, 5), 0);
+        }
+        check.same("inWave(0) then", x.inWave(0), 6);
+        check.same("wave of none", x.member(0, 6), -1);
+        check.same("talkers(2) then", x.talkers(2), 4);
     }
 }
