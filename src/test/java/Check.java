@@ -106,7 +106,7 @@ final class Check {
                 x.readText();
             }
         } catch (IllegalArgumentException e) {
-            return x.errorCode() + "@" + x.errorPosition();
+            return x.errorCode() + "@" + x.errorPosition() + (x.errorCode() != 0 ? "" : " with an exception");
         }
         return x.errorCode() + "@" + x.errorPosition() + (x.errorCode() == 0 ? "" : " without an exception");
     }

@@ -471,6 +471,8 @@ final class PromiseTest {
         check.same("highestFormat(): what comes counts", y.highestFormat(), 3);
         check.same("highestFormat() without members", Check.cluster(VERSIONS).highestFormat(), -1);
         check.same("whyNotCommit(9) without members", Check.cluster(VERSIONS).whyNotCommit(9), 0);
+        check.same("highestFormat() of the lowest",
+                Check.cluster("version a 1 1;place p;member m p a;").highestFormat(), 1);
         WaveUpgrade z = Check.cluster("version a 1 2;version b 2 3;format 2;place p;place q;member m p a;member n q b;");
         check.same("highestFormat() of two", z.highestFormat(), 2);
     }

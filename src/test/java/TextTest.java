@@ -249,9 +249,9 @@ final class TextTest {
         check.same("waves", x.setting(3), 2);
         check.same("inWave(0)", x.inWave(0), 5);
         check.sameText("it with an error behind", Check.errorOf(x, text + "format 1;", false), "4@" + text.length());
-        String other = VERSIONS + "place u;member k u a;place v;member l v b;wave v;member m v b;";
+        String other = VERSIONS + "place u;member k u a;place v;member l v b;wave v;member m v b;wave u;";
         check.sameText("another text", Check.errorOf(x, other, false), "0@-1");
-        int[] settings = {3, 2, 3, 1, 0, 1, 1, 1, 5, 10, 50, 0};
+        int[] settings = {3, 2, 3, 2, 0, 1, 1, 1, 5, 10, 50, 0};
         for (int what = 0; what < settings.length; what++) {
             check.same("setting(" + what + ") then", x.setting(what), settings[what]);
         }
@@ -261,7 +261,7 @@ final class TextTest {
             check.same("held back then: " + k, x.member(k, 5), 0);
         }
         check.same("inWave(0) then", x.inWave(0), 6);
-        check.same("wave of none", x.member(0, 6), -1);
+        check.same("inWave(1) then", x.inWave(1), 1);
         check.same("talkers(2) then", x.talkers(2), 4);
     }
 }
