@@ -1,11 +1,43 @@
+import java.io.IOException;
+import java.nio.file.Files;
+import java.nio.file.Path;
+
 /** What the tests share: expectations, and texts fed into the buffer of a cluster. */
 final class Check {
+    private static final Path DOCUMENT = Path.of("../shared/DOC.md");
+
     private final String test;
+    private String document = "";
+    private String sentence = "";
     private int wrong = 0;
     private int made = 0;
 
     Check(String test) {
         this.test = test;
+    }
+
+    /**
+     * The words of the document that the answers behind this call are about. Words that the document has no
+     * longer are told and nothing more, since what the program does may be right all the same.
+     */
+    void sentence(String words) {
+        sentence = words;
+        try {
+            if (document.isEmpty()) {
+                document = Files.readString(DOCUMENT).replaceAll("\\s+", " ");
+            }
+        } catch (IOException e) {
+            document = words;
+        }
+        if (!document.contains(words)) {
+            System.out.println(test + ": the document does not say (any more): " + words);
+        }
+    }
+
+    private void tell(String what, String got, String due) {
+        wrong++;
+        System.out.println(test + ": " + what + " answered " + got + ", due is " + due
+                + (sentence.isEmpty() ? "" : " [" + sentence + "]"));
     }
 
     /** A call of the face; its answer is a number, a boolean counts 1 or 0. */
@@ -16,8 +48,7 @@ final class Check {
     void same(String what, double got, double due) {
         made++;
         if (got != due) {
-            wrong++;
-            System.out.println(test + ": " + what + " answered " + got + ", due is " + due);
+            tell(what, "" + got, "" + due);
         }
     }
 
@@ -28,8 +59,7 @@ final class Check {
     void sameText(String what, String got, String due) {
         made++;
         if (!got.equals(due)) {
-            wrong++;
-            System.out.println(test + ": " + what + " answered <" + got + ">, due is <" + due + ">");
+            tell(what, "<" + got + ">", "<" + due + ">");
         }
     }
 
@@ -42,8 +72,7 @@ final class Check {
             got = e.getClass().getSimpleName();
         }
         if (!got.equals(due.getSimpleName())) {
-            wrong++;
-            System.out.println(test + ": " + what + " answered " + got + ", due is " + due.getSimpleName());
+            tell(what, got, due.getSimpleName());
         }
     }
 

@@ -3,10 +3,12 @@ import java.util.List;
 import java.util.Map;
 import java.util.TreeMap;
 
-/** Long runs of calls, the same ones on the class and on the Model; the seeds are fixed. */
+/** Runs of as many calls as an object is used for, the same ones on the class and on the Model; the seeds are fixed. */
 final class RandomTest {
-    private static final int RUNS = 220;
-    private static final int CALLS = 300;
+    private static final int RUNS = 3000;
+    private static final int MOST_CALLS = 512;
+    /** So many questions are taken by dice from all that there are. */
+    private static final int ASKED = 30;
 
     private static final Map<String, Integer> seen = new TreeMap<>();
     private static final List<String> told = new ArrayList<>();
@@ -15,6 +17,8 @@ final class RandomTest {
     private final WaveUpgrade x = new WaveUpgrade();
     private final Model y = new Model();
     private final List<String> calls = new ArrayList<>();
+    private final List<Runnable> questions = new ArrayList<>();
+    private int made = 0;
 
     interface Call {
         double answer();
@@ -50,8 +54,12 @@ final class RandomTest {
         }
     }
 
-    /** Returns whether both answered the same. */
+    /** Asks both, and tells if they do not answer the same. */
     private void both(String name, Call ofClass, Call ofModel) {
+        if (made >= MOST_CALLS) {
+            return;
+        }
+        made++;
         String got = outcome(ofClass);
         String due = outcome(ofModel);
         calls.add(name + " = " + got);
@@ -71,8 +79,9 @@ final class RandomTest {
     private void run() {
         calls.add("new");
         dump();
-        for (int k = 0; k < CALLS && told.isEmpty(); k++) {
-            if (k == 0 || dice.in(100)) {
+        texts();
+        while (made < MOST_CALLS && told.isEmpty()) {
+            if (dice.in(100)) {
                 texts();
             } else if (dice.in(12)) {
                 script(Texts.script(dice, names(true), names(false)));
@@ -81,7 +90,7 @@ final class RandomTest {
             } else {
                 ask();
             }
-            if (dice.in(6)) {
+            if (dice.in(8)) {
                 dump();
             }
         }
@@ -117,14 +126,27 @@ final class RandomTest {
         seen.merge("code " + sort + " " + y.errorCode(), 1, Integer::sum);
     }
 
-    /** Reads texts until one is good and has a wave and a member, so that the run is worth its time. */
+    /** Sometimes any text; mostly one that is good and has a wave and a member, so that the run is worth its time. */
     private void texts() {
-        for (int k = 0; k < 30 && told.isEmpty(); k++) {
+        if (dice.in(3)) {
             text(Texts.cluster(dice));
-            if (y.errorCode() == 0 && !y.now.members.isEmpty() && !dice.in(8)) {
-                return;
-            }
+            dump();
         }
+        String good = Texts.cluster(dice);
+        for (int k = 0; k < 30 && !isWorthIt(good); k++) {
+            good = Texts.cluster(dice);
+        }
+        text(good);
+    }
+
+    private static boolean isWorthIt(String text) {
+        Model model = new Model();
+        for (int i = 0; i < text.length(); i += 20) {
+            model.feed(new int[] {Check.four(text, i), Check.four(text, i + 4), Check.four(text, i + 8), Check.four(text, i + 12),
+                Check.four(text, i + 16)});
+        }
+        model.truncate(text.length());
+        return outcome(model::readText).length() < 6 && !model.now.members.isEmpty() && !model.now.waves.isEmpty();
     }
 
     private void text(String text) {
@@ -215,57 +237,96 @@ final class RandomTest {
         }
     }
 
-    /** Everything that can be asked cheaply, and what lies one behind each end. */
+    private void question(String name, Call ofClass, Call ofModel) {
+        questions.add(() -> both(name, ofClass, ofModel));
+    }
+
+    /** Some of all that can be asked cheaply; RefusedTest has what lies behind the ends. */
     private void dump() {
+        questions.clear();
         int versions = y.now.versions.size();
-        int members = y.now.members.size();
-        for (int k = -1; k <= 12; k++) {
+        for (int k = 0; k < 12; k++) {
             int w = k;
-            both("setting(" + w + ")", () -> x.setting(w), () -> y.setting(w));
-            both("readers(" + w + ")", () -> x.readers(w), () -> y.readers(w));
-            both("whyNotCommit(" + w + ")", () -> x.whyNotCommit(w), () -> y.whyNotCommit(w));
-            both("plan(" + w + ")", () -> x.plan(w), () -> y.plan(w));
-            both("down(" + w + ")", () -> x.down(w), () -> y.down(w));
-            both("inWave(" + w + ")", () -> x.inWave(w), () -> y.inWave(w));
+            question("setting(" + w + ")", () -> x.setting(w), () -> y.setting(w));
         }
-        for (int k = -1; k <= versions; k++) {
+        for (int k = 1; k <= 9; k++) {
+            int f = k;
+            question("readers(" + f + ")", () -> x.readers(f), () -> y.readers(f));
+            question("whyNotCommit(" + f + ")", () -> x.whyNotCommit(f), () -> y.whyNotCommit(f));
+        }
+        for (int k = 0; k < y.now.places.size(); k++) {
+            int p = k;
+            question("down(" + p + ")", () -> x.down(p), () -> y.down(p));
+        }
+        for (int k = 0; k < y.now.waves.size(); k++) {
+            int w = k;
+            question("inWave(" + w + ")", () -> x.inWave(w), () -> y.inWave(w));
+        }
+        for (int k = 0; k < versions; k++) {
+            ofVersion(k, versions);
+        }
+        for (int k = 0; k < y.now.members.size(); k++) {
+            ofMember(k, versions);
+        }
+        ofAll();
+        for (int k = 0; k < ASKED; k++) {
+            questions.get(dice.below(questions.size())).run();
+        }
+        count(versions);
+    }
+
+    private void ofVersion(int v, int versions) {
+        question("talkers(" + v + ")", () -> x.talkers(v), () -> y.talkers(v));
+        question("with(" + v + ")", () -> x.with(v), () -> y.with(v));
+        question("share(" + v + ")", () -> x.share(v), () -> y.share(v));
+        for (int k = 0; k < versions; k++) {
+            int o = k;
+            question("mayTalk(" + v + "," + o + ")", () -> bit(x.mayTalk(v, o)), () -> bit(y.mayTalk(v, o)));
+            question("wayOf(" + v + "," + o + ")", () -> x.wayOf(v, o), () -> y.wayOf(v, o));
+            question("nextOnWay(" + v + "," + o + ")", () -> x.nextOnWay(v, o), () -> y.nextOnWay(v, o));
+        }
+    }
+
+    private void ofMember(int m, int versions) {
+        question("partners(" + m + ")", () -> x.partners(m), () -> y.partners(m));
+        question("open(" + m + ")", () -> x.open(m), () -> y.open(m));
+        for (int k = 0; k < 7; k++) {
+            int what = k;
+            question("member(" + m + "," + what + ")", () -> x.member(m, what), () -> y.member(m, what));
+        }
+        for (int k = 0; k < versions; k++) {
             int v = k;
-            both("talkers(" + v + ")", () -> x.talkers(v), () -> y.talkers(v));
-            both("with(" + v + ")", () -> x.with(v), () -> y.with(v));
-            both("share(" + v + ")", () -> x.share(v), () -> y.share(v));
-            for (int j = -1; j <= versions; j++) {
-                int o = j;
-                both("mayTalk(" + v + "," + o + ")", () -> bit(x.mayTalk(v, o)), () -> bit(y.mayTalk(v, o)));
-                both("wayOf(" + v + "," + o + ")", () -> x.wayOf(v, o), () -> y.wayOf(v, o));
-                both("nextOnWay(" + v + "," + o + ")", () -> x.nextOnWay(v, o), () -> y.nextOnWay(v, o));
-            }
+            question("reason(" + m + "," + v + ")", () -> x.reason(m, v), () -> y.reason(m, v));
+            question("against(" + m + "," + v + ")", () -> x.against(m, v), () -> y.against(m, v));
         }
-        for (int k = -1; k <= members; k++) {
-            int m = k;
-            both("partners(" + m + ")", () -> x.partners(m), () -> y.partners(m));
-            both("open(" + m + ")", () -> x.open(m), () -> y.open(m));
-            for (int j = -1; j <= 8; j++) {
-                int o = j;
-                both("member(" + m + "," + o + ")", () -> x.member(m, o), () -> y.member(m, o));
-                both("reason(" + m + "," + o + ")", () -> x.reason(m, o), () -> y.reason(m, o));
-                both("against(" + m + "," + o + ")", () -> x.against(m, o), () -> y.against(m, o));
-            }
+    }
+
+    private void ofAll() {
+        for (int k = 0; k < 4; k++) {
+            question("skewNow", x::skewNow, y::skewNow);
+            question("mixed", x::mixed, y::mixed);
+            question("lagging", x::lagging, y::lagging);
+            question("blocked", x::blocked, y::blocked);
+            question("meanMeasure", x::meanMeasure, y::meanMeasure);
+            question("highestFormat", x::highestFormat, y::highestFormat);
+            question("wayBack", x::wayBack, y::wayBack);
+            question("events", x::events, y::events);
         }
-        both("skewNow", x::skewNow, y::skewNow);
-        both("mixed", x::mixed, y::mixed);
-        both("lagging", x::lagging, y::lagging);
-        both("blocked", x::blocked, y::blocked);
-        both("meanMeasure", x::meanMeasure, y::meanMeasure);
-        both("highestFormat", x::highestFormat, y::highestFormat);
-        both("wayBack", x::wayBack, y::wayBack);
-        both("events", x::events, y::events);
-        for (int k = 0; k <= y.events(); k++) {
+        for (int k = 0; k < 5; k++) {
+            int what = k;
+            question("plan(" + what + ")", () -> x.plan(what), () -> y.plan(what));
+        }
+        for (int k = 0; k < y.events(); k++) {
             int i = k;
             for (int j = 0; j < 4; j++) {
                 int what = j;
-                both("event(" + i + "," + what + ")", () -> x.event(i, what), () -> y.event(i, what));
+                question("event(" + i + "," + what + ")", () -> x.event(i, what), () -> y.event(i, what));
             }
         }
+    }
+
+    /** For those who want to know what the runs have met. */
+    private void count(int versions) {
         seen.merge("plan state " + y.now.plan, 1, Integer::sum);
         for (int[] e : y.now.events) {
             seen.merge("event kind " + e[1], 1, Integer::sum);
