@@ -619,6 +619,13 @@ final class EdgePlanTest {
         plan(x, 4);
         check.same("done", x.lagging(), 0);
         check.same("blocked when done", x.blocked(), 0);
+        WaveUpgrade y = Check.cluster("version a 1 1;version b 1 1;version c 2 2;talks a b;talks b c;place p;place q;member k p a;"
+                + "member l q a;wave p q;takes 1;soak 0;");
+        y.start(2);
+        check.same("the step is not the target", y.blocked(), 0);
+        y.pass(3);
+        plan(y, 1, 2, 2, 0, -1);
+        check.same("the step is the target", y.blocked(), 3);
     }
 
     private static void inWave() {

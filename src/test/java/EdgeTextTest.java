@@ -31,6 +31,7 @@ final class EdgeTextTest {
         onceEach();
         aheadOfMembers();
         versionOfMember();
+        versionAmongMany();
         counts();
         order();
         endsTooEarly();
@@ -603,6 +604,27 @@ final class EdgeTextTest {
         bad(5, eight + "member m p a;member n q b;member o q ^a;");
         bad(5, eight + "member m p a;member n p ^b;talks a b;");
         good(eight + "member m p a;member n p a;");
+        check.sentence("if several codes apply at one token, the lowest one.");
+        bad(3, "version a 1 1;place p;member p p a;member ^p p a;");
+        bad(3, "version p 1 1;place p;member p p p;member ^p p p;");
+    }
+
+    /** The other member that is wrong is not the latest one. */
+    private static void versionAmongMany() {
+        String ahead = "version a 1 1;version b 1 1;version c 1 1;talks a b;talks b c;place p;place q;place r;";
+        check.sentence("5: the version of a member that does not read the format,");
+        bad(5, "version a 1 1;version b 2 2;talks a b;place p;place q;member m p a;member n q ^b;");
+        bad(5, "version a 1 1;version b 2 2;talks a b;place p;place q;member m p a;member n p ^b;");
+        check.sentence("that is farther than the skew from that of another member,");
+        bad(5, ahead + "member m p a;member n q b;member o r ^c;");
+        bad(5, ahead + "member m p c;member n q b;member o r ^a;");
+        bad(5, ahead + "member k p a;member l r b;member m q b;member n r b;member o q ^c;");
+        good("skew 2;" + ahead + "member m p a;member n q b;member o r c;");
+        check.sentence("or that may not talk with that of another member of its place;");
+        bad(5, "skew 2;" + ahead + "member m p a;member n q b;member o p ^c;");
+        bad(5, "skew 2;" + ahead + "member m p a;member n p b;member o p ^c;");
+        bad(5, "skew 2;" + ahead + "member m p c;member n p b;member k q c;member o p ^a;");
+        good("skew 2;" + ahead + "member m p a;member n q b;member o q c;");
     }
 
     private static void counts() {
