@@ -138,6 +138,12 @@ final class EdgeKeepTest {
     }
 
     private static void wrongEvents() {
+        check.sentence("`i`: 0 for the latest event, 1 for the one before it, and so on");
+        WaveUpgrade z = Check.cluster(CLUSTER);
+        z.hold(0, true);
+        z.hold(1, true);
+        event(z, 0, 0, 8, 1, 1);
+        event(z, 1, 0, 8, 0, 1);
         check.sentence("Throws `IndexOutOfBoundsException` if there is no such event that is kept");
         WaveUpgrade x = Check.cluster(CLUSTER);
         check.noIndex("event(0, 0) of none", () -> x.event(0, 0));

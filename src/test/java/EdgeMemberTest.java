@@ -117,6 +117,7 @@ final class EdgeMemberTest {
 
     private static void reasonsInOrder() {
         check.sentence("A member may begin to change to a version if there is no reason against it; the lowest one is told:");
+        check.sentence("Returns the lowest reason why a member may not begin to change to a version (section 2); 0 if there is none.");
         WaveUpgrade x = Check.cluster(ALL_REASONS);
         reasons(x, 0, 3, 0, 4, 6);
         reasons(x, 1, 3, 0, 4, 6);

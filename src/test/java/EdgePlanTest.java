@@ -72,6 +72,7 @@ final class EdgePlanTest {
         done(TWO + "member m r a;wave p;wave q;", 1);
         done(TWO + "member m r a;member n p b;wave p;", 1);
         done(eight() + "member m p h;member n q h;member o r a;", 7);
+        check.sentence("The coming version of a member is its version if it is up, otherwise the next one.");
         WaveUpgrade x = Check.cluster(TWO + "member m p a;wave p;");
         x.change(0, 1);
         check.same("what comes counts, though it is down", x.start(1), -1);
@@ -128,6 +129,7 @@ final class EdgePlanTest {
         step("member m p a held;member n q d;", 7, 4);
         step("member m p a held;member n q d;", 0, 2);
         step("member m p h held;member n q d;", 0, 2);
+        check.sentence("The planned members are those in the places of waves.");
         step("member m r a;member n q d;", 7, 4);
         step("member m r h;member n q d;", 0, 2);
         step("member m r a;member n q d;", 3, -1);

@@ -420,11 +420,13 @@ final class EdgeTextTest {
         check.same("members", x.setting(2), 12);
         check.same("the twelfth one", x.member(11, 5), 1);
         check.same("the eleventh one", x.member(10, 5), 0);
+        check.sentence("Sets are bit masks in which bit k stands for number k.");
         check.same("all of them", x.with(0), 4095);
         check.same("in wave 0", x.inWave(0), 4095);
         check.same("partners of the twelfth one", x.partners(11), 2047);
         check.same("partners of the first one", x.partners(0), 4094);
         check.noIndex("no member 12", () -> x.partners(12));
+        check.sentence("Returns the number of members.");
         check.same("readText of twelve", reread(x, "version a 1 1;place p;" + each("member # p a;", 0, 12)), 12);
         check.same("readText of eleven", reread(x, "version a 1 1;place p;" + each("member # p a;", 0, 11)), 11);
         check.same("readText of one", reread(x, "version a 1 1;place p;member m p a;"), 1);
@@ -469,6 +471,7 @@ final class EdgeTextTest {
         bad(6, crowd() + links(20) + "^link a g;");
         bad(6, crowd() + links(20) + "^link");
         good(crowd() + links(20) + "wave p q;");
+        check.sentence("the second name behind \"link\" if the versions of both may not talk.");
         bad(5, "version a 1 1;version b 1 1;place p;place q;member m p a;member n q b;link m ^n;");
         bad(5, "version a 1 1;version b 1 1;place p;place q;member m p a;member n q b;link n ^m;talks a b;");
         good("version a 1 1;version b 1 1;place p;place q;member m p a;member n q b;talks a b;link n m;");
@@ -565,6 +568,7 @@ final class EdgeTextTest {
         bad(4, "format 1;" + one + "^format 1;");
         bad(4, "skew 1;" + one + "place q;^skew 1;");
         bad(4, one + "member n p a;^skew 1;");
+        check.sentence("these two stand ahead of all members.");
         good("version a 1 1;place p;format 1;skew 0;member m p a;");
         good("version a 1 1;place p;wave p;soak 1;skew 0;format 1;member m p a;");
         good(one + "down 1;takes 1;soak 1;limit 1;version b 1 1;talks a b;place q;wave q;member n q b;link m n;");
@@ -699,6 +703,7 @@ final class EdgeTextTest {
         error(x, 0, -1);
         x.truncate(1);
         error(x, 0, -1);
+        check.sentence("Returns the code of the error of the latest readText() or runScript();");
         check.noArgument("readText of a semicolon", () -> x.readText());
         error(x, 1, 0);
         x.pass(1);

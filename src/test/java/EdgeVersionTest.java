@@ -56,6 +56,8 @@ final class EdgeVersionTest {
         check.noState("restore()", () -> x.restore());
         check.noIndex("reportByte(0)", () -> x.reportByte(0));
         check.noIndex("event(0, 0)", () -> x.event(0, 0));
+        check.sentence("`NONE = -1`: There is no such value.");
+        check.same("NONE", WaveUpgrade.NONE, -1);
         check.sentence("An object is used for at most 512 calls after it has been made;");
         for (int call = 7; call <= 511; call++) {
             check.same("call " + call, x.pass(39), 39 * (call - 6));
@@ -242,6 +244,7 @@ final class EdgeVersionTest {
         for (int format = 1; format <= 9; format++) {
             check.same("whyNotCommit(" + format + ") at last", x.whyNotCommit(format), last[format - 1]);
         }
+        check.sentence("Returns the lowest reason why a format (1 to 9) cannot be committed (section 5); 0 if there is none.");
         WaveUpgrade y = new WaveUpgrade();
         check.same("whyNotCommit(1) without members", y.whyNotCommit(1), 1);
         for (int format = 2; format <= 9; format++) {

@@ -108,7 +108,8 @@ final class RefusedTest {
             }
             return x;
         });
-        check.sameText(name + ": behind " + what, Whole.difference(behind, everything), "");
+        check.sameText(name + ": \"A call that throws an exception changes nothing\", " + what,
+                Whole.difference(behind, everything), "");
     }
 
     interface OneNumber {
@@ -317,31 +318,34 @@ final class RefusedTest {
 
     private static void texts() {
         check.sentence("only the buffer, errorCode() and errorPosition() change then");
-        String[] clusters = {"place p;^;", "soak ^100;", "place p;place ^p;", "soak 1;^soak 2;", "format 9;" + VERSIONS
-                + "place p;member m p ^old;", "place a;place b;place c;place d;place e;^place f;", "place p^"};
-        int[] codes = {1, 2, 3, 4, 5, 6, 1};
-        String[] scripts = {"pass 1;^;", "pass 1;repeat ^21 ();", "pass 1;hold ^old;", "repeat 1 (repeat 1 (^repeat 1 ()));",
-            "", "pass 1;".repeat(30) + "^pass 1;", "pass 1;hold md^"};
+        String[] clusters = {"1 place p;^;", "2 soak ^100;", "3 place p;place ^p;", "4 soak 1;^soak 2;", "5 format 9;" + VERSIONS
+                + "place p;member m p ^old;", "6 place a;place b;place c;place d;place e;^place f;", "1 place p^"};
+        String[] scripts = {"1 pass 1;^;", "2 pass 1;repeat ^21 ();", "3 pass 1;hold ^old;", "3 pass 1;start ^ma;",
+            "4 repeat 1 (repeat 1 (^repeat 1 ()));", "6 " + "pass 1;".repeat(30) + "^pass 1;", "1 pass 1;hold^"};
         List<RefusedTest> states = new ArrayList<>();
         states.add(new RefusedTest("a new object", WaveUpgrade::new));
         states.add(new RefusedTest("no plan", () -> rich(CLUSTER)));
         states.add(new RefusedTest("rolling", () -> started(1)));
         for (RefusedTest state : states) {
             List<String> before = Whole.allButText(state.maker);
-            for (int i = 0; i < codes.length; i++) {
-                state.refusedText(clusters[i], false, codes[i], before);
-                boolean isKnown = i != 2 || !state.name.startsWith("a new");
-                if (codes[i] != 5 && isKnown && !(i == 6 && state.name.startsWith("a new"))) {
-                    state.refusedText(scripts[i], true, codes[i], before);
-                }
+            for (String each : clusters) {
+                state.refusedText(each, false, before);
+            }
+            for (String each : scripts) {
+                state.refusedText(each, true, before);
             }
         }
     }
 
-    private void refusedText(String marked, boolean isScript, int code, List<String> before) {
+    /** The code that is due stands ahead of the text, and '^' ahead of the token. */
+    private void refusedText(String codeAndText, boolean isScript, List<String> before) {
+        String marked = codeAndText.substring(2);
         String text = marked.replace("^", "");
-        String due = code + "@" + marked.indexOf('^');
-        check.sameText(name + ": <" + text + ">", wrongText(text, isScript), due);
+        WaveUpgrade wrong = maker.make();
+        wrong.truncate(0);
+        String due = codeAndText.charAt(0) + "@" + marked.indexOf('^');
+        check.sameText(name + ": <" + text + ">", Check.errorOf(wrong, text, isScript), due);
+        check.same(name + ": the buffer behind <" + text + ">", wrong.feed(0, 0, 0, 0, 0), 20);
         List<String> behind = Whole.allButText(() -> {
             WaveUpgrade x = maker.make();
             x.truncate(0);
@@ -349,14 +353,6 @@ final class RefusedTest {
             return x;
         });
         check.sameText(name + ": behind <" + text + ">", Whole.difference(behind, before), "");
-    }
-
-    private String wrongText(String text, boolean isScript) {
-        WaveUpgrade x = maker.make();
-        x.truncate(0);
-        String error = Check.errorOf(x, text, isScript);
-        check.same(name + ": the buffer behind <" + text + ">", x.feed(0, 0, 0, 0, 0), 20);
-        return error;
     }
 
     // ---- questions that try out what will be
